@@ -254,7 +254,6 @@ public final class PackingTest {
     }
 
     private static void allMannersAgain() {
-        PrefixCodes x = new PrefixCodes();
         int[] lengths = new int[64];
         for (int symbol = 0; symbol < 64; symbol++) {
             lengths[symbol] = symbol % 16;
@@ -262,9 +261,10 @@ public final class PackingTest {
         int[] falling = new int[64];
         Arrays.fill(falling, 0, 40, 15);
         Arrays.fill(falling, 42, 50, 3);
-        Check.codeOf(x, lengths);
-        Check.codeOf(x, falling);
         for (int manner = PLAIN; manner <= RUNS; manner++) {
+            PrefixCodes x = new PrefixCodes();
+            Check.codeOf(x, lengths);
+            Check.codeOf(x, falling);
             x.pack(0, manner);
             x.pack(1, manner);
             int first = x.unpack(64, manner);
