@@ -21,6 +21,7 @@ public final class PackingTest {
         packRuns();
         packRunsOfZeros();
         packRunsOfLengths();
+        packRunsWithLongWords();
         packRefused();
         packWithoutRoom();
         unpackPlain();
@@ -93,6 +94,35 @@ public final class PackingTest {
         // 0, 16 and 4: 4 and 16 come once, 0 twice.
         String three = "1000 010 000 000 001" + "000".repeat(7) + "010";
         duePacked("0s ahead of 4s", RUNS, three + "0 0 10 11 00", 0, 0, 4, 4, 4, 4);
+    }
+
+    /** The commands 1 to 8 come 18 11 7 4 3 1 1 1 times, never four alike in a row: 6 and 7 get seven bits. */
+    private static void packRunsWithLongWords() {
+        int[] often = {0, 18, 11, 7, 4, 3, 1, 1, 1};
+        int[] lengths = new int[46];
+        int size = 0;
+        while (size < lengths.length) {
+            for (int length = 1; length <= 8; length++) {
+                if (often[length] > 0) {
+                    often[length]--;
+                    lengths[size++] = length;
+                    // The most frequent ones go between the others, so that none is left over at the end.
+                    if (length > 1 && often[1] > 0 && often[1] * 2 > lengths.length - size) {
+                        often[1]--;
+                        lengths[size++] = 1;
+                    }
+                }
+            }
+        }
+        PrefixCodes x = new PrefixCodes();
+        int code = Check.codeOf(x, lengths);
+        int words = 18 * 1 + 11 * 2 + 7 * 3 + 4 * 4 + 3 * 5 + 6 + 7 + 7;
+        Check.due("17: words up to the limit", x.pack(code, RUNS), 4 + 18 * 3 + words);
+        Check.due("17: 18 lengths are told", x.takeNumber(4), 14);
+        int[] told = {0, 0, 0, 0, 6, 7, 0, 7, 0, 5, 0, 4, 0, 3, 0, 2, 0, 1};
+        for (int i = 0; i < told.length; i++) {
+            Check.due("17: the limit is 7, told length " + i, x.takeNumber(3), told[i]);
+        }
     }
 
     private static void packRefused() {
