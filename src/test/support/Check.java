@@ -88,7 +88,8 @@ final class Check {
 
     static String bitsOf(PrefixCodes x) {
         StringBuilder row = new StringBuilder();
-        for (int i = 0; i < x.bits(); i++) {
+        int bits = x.bits();
+        for (int i = 0; i < bits; i++) {
             row.append(x.bit(i));
         }
         return row.toString();
