@@ -21,6 +21,7 @@ public final class AgainTest {
         wordsAtTheEnd();
         clearedAgain();
         roomGivenBackAgain();
+        lengthsAgain();
         readRefusedAgain();
         numbersAgain();
         Check.end();
@@ -242,6 +243,30 @@ public final class AgainTest {
         Check.due("26: more words", x.read(longest, 1, 100, 300), 300);
         takeMany(x, x.bits());
         Check.due("10: none is left", x.bits(), 0);
+    }
+
+    /** What was packed, or read, or refused before is of no account for what comes next. */
+    private static void lengthsAgain() {
+        int[][] rows = {{3, 3, 3, 3, 3, 7, 1, 15}, {0, 2, 0, 0, 0, 2, 0, 0}, {5, 0, 0, 5, 5, 5, 5, 0}};
+        for (int manner = 0; manner < 3; manner++) {
+            PrefixCodes x = new PrefixCodes();
+            for (int[] row : rows) {
+                Check.codeOf(x, row);
+            }
+            int[] bits = new int[3];
+            for (int i = 0; i < 9; i++) {
+                int packed = x.pack(i % 3, manner);
+                bits[i % 3] = i < 3 ? packed : bits[i % 3];
+                Check.due("17: as many as before", packed, bits[i % 3]);
+            }
+            for (int i = 0; i < 9; i++) {
+                Check.due("18: a new code", x.unpack(8, manner), 3 + i);
+            }
+            Check.due("18: all are taken", x.bits(), 0);
+            for (int i = 0; i < 9; i++) {
+                Check.dueLengths("18: read the " + i + "th time", x, 3 + i, rows[i % 3]);
+            }
+        }
     }
 
     /** What ENDED takes is gone, time and again, and the text stays. */

@@ -19,6 +19,8 @@ public final class GroupsTest {
         noRounds();
         everyRound();
         madeOnceMore();
+        theFirstGroupMoves();
+        symbolsThatComeOnce();
         theFirstOfSeveral();
         theTextAsItWas();
         theLatestChoosing();
@@ -195,6 +197,41 @@ public final class GroupsTest {
         // Code 2 had 1 1 2 2 at first, and has no group then.
         Check.dueLengths("23: by no group", x, 2, of64(2, 2, 1));
         Check.dueLengths("23: by four groups", x, 0, of64(2, 1, 2));
+    }
+
+    /** In each round every group gets a code, the first one, too; a later choosing begins anew. */
+    private static void theFirstGroupMoves() {
+        PrefixCodes x = withText(4, 4, 5, 5, 5, 5, 4, 4, 4, 4, 6, 6);
+        // At first code 0 has the lengths 2 1 2 of 4 5 6, code 1 has 1 2 2.
+        x.choose(2, 2, 15, 1);
+        Check.dueGroups("24: the first group gets another code", x, 1, 0, 0, 1, 1, 0);
+        x.choose(2, 2, 15, 0);
+        Check.dueGroups("24: as at first again", x, 0, 0, 0, 1, 1, 1);
+    }
+
+    /** The count of a symbol that is in the text is 1 where it is in no group of the code: the first and the last. */
+    private static void symbolsThatComeOnce() {
+        PrefixCodes x = withText(9, 1, 1, 1, 1, 8);
+        x.choose(2, 3, 15, 0);
+        int[] first = new int[64];
+        first[1] = 1;
+        first[8] = 2;
+        first[9] = 2;
+        Check.dueLengths("23: the code of the first group", x, 0, first);
+        Check.dueLengths("23: the code of the last group", x, 1, first);
+        PrefixCodes y = withText(9, 9, 1, 8);
+        y.choose(2, 2, 15, 0);
+        // The counts of 1 8 9 are 1 1 3 by the first group, and 2 2 1 by the last.
+        int[] heads = new int[64];
+        heads[1] = 2;
+        heads[8] = 2;
+        heads[9] = 1;
+        Check.dueLengths("23: the first group's symbols come more often", y, 0, heads);
+        int[] tails = new int[64];
+        tails[1] = 2;
+        tails[8] = 1;
+        tails[9] = 2;
+        Check.dueLengths("23: the last group's symbols come more often", y, 1, tails);
     }
 
     private static void theFirstOfSeveral() {

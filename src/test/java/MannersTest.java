@@ -233,6 +233,7 @@ public final class MannersTest {
     private static void stepsAtTheEdges() {
         for (int length = 0; length <= 15; length++) {
             dueBoth("STEPS of " + length + " alone", STEPS, number(length, 4) + "0", length);
+            dueRefused("half a step from " + length, 1, STEPS, number(length, 4) + "1", ENDED, "");
         }
         dueRead("STEPS up to 15", STEPS, "1110 10 0", 15);
         dueRefused("STEPS one above 15", 1, STEPS, "1111 10 0", BAD, "0");
