@@ -33,6 +33,7 @@ public final class FaceTest {
         methods();
         constants();
         membersAreHidden();
+        nothingIsInherited();
         classesInside();
         source();
         Check.end();
@@ -97,6 +98,14 @@ public final class FaceTest {
                 Check.tell(field + " is neither public nor private");
             }
         }
+    }
+
+    /** What a class above it or an interface has could be seen from outside, too. */
+    private static void nothingIsInherited() {
+        Check.due("the class above", PrefixCodes.class.getSuperclass().getName(), "java.lang.Object");
+        Check.due("interfaces", PrefixCodes.class.getInterfaces().length, 0);
+        Check.due("public classes inside", PrefixCodes.class.getClasses().length, 0);
+        Check.due("package", PrefixCodes.class.getPackageName(), "");
     }
 
     private static void classesInside() {
