@@ -6,14 +6,17 @@ import java.nio.file.Files;
 import java.nio.file.Path;
 import java.util.List;
 import java.util.TreeSet;
+import java.util.regex.Matcher;
+import java.util.regex.Pattern;
 
-/** That README.md names every test and shows every call; its examples and ways are run by .ci/run. */
+/** That README.md and EDGES.md tell what is there; the examples and ways of README.md are run by .ci/run. */
 public final class ReadmeTest {
     public static void main(String[] args) throws IOException {
         List<String> readme = Files.readAllLines(Path.of("README.md"));
         testsAreNamed(readme);
         callsAreShown(readme);
         namesAreTold(readme);
+        edgesAreTested(Files.readAllLines(Path.of("src/test/EDGES.md")));
         Check.end();
     }
 
@@ -51,5 +54,24 @@ public final class ReadmeTest {
                 Check.tell("README.md does not tell and show " + name);
             }
         }
+    }
+
+    /** Each `SomeTest.method` of a row, or `.method` behind one, is a method of that test. */
+    private static void edgesAreTested(List<String> edges) throws IOException {
+        Pattern named = Pattern.compile("`(\\w+Test)?\\.(\\w+)`");
+        int found = 0;
+        for (String row : edges) {
+            String test = "";
+            Matcher names = named.matcher(row);
+            while (names.find()) {
+                test = names.group(1) == null ? test : names.group(1);
+                Path source = Path.of("src/test/java/" + test + ".java");
+                if (!Files.exists(source) || !Files.readString(source).contains(" void " + names.group(2) + "(")) {
+                    Check.tell("EDGES.md names " + test + "." + names.group(2) + ", which is not there");
+                }
+                found++;
+            }
+        }
+        Check.due("EDGES.md names tests", found > 0 ? 1 : 0, 1);
     }
 }

@@ -308,6 +308,16 @@ public final class RefusalsTest {
         Twins.dueRefused("26: one behind is UNKNOWN, the first is OVER", RefusalsTest::rich,
                 x -> x.read(States.OVER, 4, 1, 1), UNKNOWN);
         Twins.dueRefused("26: UNKNOWN, ENDED", RefusalsTest::empty, x -> x.read(6, 2, 1, 1), UNKNOWN);
+        // Of more than six codes one may be UNKNOWN, which goes before OUTSIDE; 0 .. 6 are all there are.
+        Twins.dueRefused("26: seven that are known", RefusalsTest::rich, x -> x.read(0, 7, 1, 1), OUTSIDE);
+        Twins.dueRefused("26: eight, one is UNKNOWN", RefusalsTest::rich, x -> x.read(0, 8, 1, 1), UNKNOWN);
+        Twins.dueRefused("26: seven from the second on", RefusalsTest::rich, x -> x.read(1, 7, 1, 1), UNKNOWN);
+        for (int first : new int[] {0, 1, 6}) {
+            Twins.dueRefused("26: more than can be numbered", RefusalsTest::rich,
+                    x -> x.read(first, Integer.MAX_VALUE, 1, 1), UNKNOWN);
+            Twins.dueRefused("26: fewer than none", RefusalsTest::rich,
+                    x -> x.read(first, Integer.MIN_VALUE, 1, 1), OUTSIDE);
+        }
         Twins.dueRefused("26: size, OVER", RefusalsTest::rich, x -> x.read(States.OVER, 1, 101, 1), OUTSIDE);
         Twins.dueRefused("26: codes, NONE", RefusalsTest::rich, x -> x.read(States.NONE, 7, 1, 1), OUTSIDE);
         Twins.dueRefused("26: symbols, NONE", RefusalsTest::rich, x -> x.read(States.NONE, 1, 1, 0), OUTSIDE);
